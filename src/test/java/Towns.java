@@ -21,6 +21,24 @@ final class Towns {
         return x;
     }
 
+    /** A town with one storey on each plot, tilted as told. */
+    static LevelGone tops(int... tops) {
+        LevelGone x = of(3);
+        for (int p = 0; p < tops.length; p++) {
+            turnTo(x, tops[p]);
+            x.build(p, 3, 0);
+        }
+        return x;
+    }
+
+    /** Years go by until a loving level is off by so much: two nearer each year. */
+    static void turnTo(LevelGone x, int off) {
+        for (int y = 0; y < 6; y++) {
+            x.pull(y, off);
+        }
+        x.year(9);
+    }
+
     static void typeIn(LevelGone x, String text) {
         x.clear();
         for (int i = 0; i < text.length(); i++) {
