@@ -773,8 +773,9 @@ public final class LevelGone {
         }
     }
 
-    /** The kinds of levels. */
+    /** The kinds of levels; PLAIN is any other. */
     private static final class Levels {
+        static final int DRIFTING = 1, PULLED = 2, LOVING = 3, TREMBLING = 4, STUCK = 5;
         static final int STUCK_AT = 3;
 
         /** How far off one will be behind a year, being off by b, with a pull. */
@@ -783,11 +784,11 @@ public final class LevelGone {
             int drifting = kept(even ? b + 1 : b, MOST_OFF);
             int loving = nearer(nearer(b, p), p);
             switch (kind) {
-                case 1: return drifting;
-                case 2: return nearer(b, p);
-                case 3: return loving;
-                case 4: return kept(even ? loving - 1 : loving + 1, MOST_OFF);
-                case 5: return kept(drifting, STUCK_AT);
+                case DRIFTING: return drifting;
+                case PULLED: return nearer(b, p);
+                case LOVING: return loving;
+                case TREMBLING: return kept(even ? loving - 1 : loving + 1, MOST_OFF);
+                case STUCK: return kept(drifting, STUCK_AT);
                 default: return b;
             }
         }
@@ -804,28 +805,30 @@ public final class LevelGone {
         }
     }
 
-    /** The kinds of storeys. */
+    /** The kinds of storeys; PLAIN is any other. */
     private static final class Storeys {
+        static final int BRICK = 1, CHURCH = 2, SHED = 3, TOWER = 4, HUT = 5;
+
         /** Whether one stands, tilted by a, on what is tilted by u, with a load on it. */
         static boolean stands(int kind, int a, int u, int load) {
             int unlike = Math.abs(a - u);
             switch (kind) {
-                case 1: return unlike <= 2 && load <= 8;
-                case 2: return unlike <= 1;
-                case 3: return load <= 3;
-                case 4: return unlike <= 1 && load <= 5;
-                case 5: return load <= 3 && a >= -6 && a <= 6;
+                case BRICK: return unlike <= 2 && load <= 8;
+                case CHURCH: return unlike <= 1;
+                case SHED: return load <= 3;
+                case TOWER: return unlike <= 1 && load <= 5;
+                case HUT: return load <= 3 && a >= -6 && a <= 6;
                 default: return unlike <= 2;
             }
         }
 
         static int heavy(int kind) {
             switch (kind) {
-                case 1: return 3;
-                case 2: return 4;
-                case 3: return 1;
-                case 4: return 5;
-                case 5: return 1;
+                case BRICK: return 3;
+                case CHURCH: return 4;
+                case SHED: return 1;
+                case TOWER: return 5;
+                case HUT: return 1;
                 default: return 2;
             }
         }
@@ -1032,7 +1035,7 @@ public final class LevelGone {
 
         void goOn(int years) {
             for (int gone = 0; gone < years && site.year < LAST_YEAR; gone++) {
-                site.off = offBehind(site.year, site.off);
+                site.off = Levels.behind(kind, site.year, site.off, pullOf(site.year));
                 site.year++;
             }
         }

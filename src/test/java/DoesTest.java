@@ -99,6 +99,11 @@ public final class DoesTest {
         for (int[] pass : passes) {
             Due.is("pass(" + pass[0] + ", " + pass[1] + ")", x.pass(pass[0], pass[1]), pass[2]);
         }
+        LevelGone first = Towns.tops(-4, 0);
+        Due.is("LEVEL ones but the first", first.lies(0), 62);
+        Due.is("the first join is a STEP", first.lies(1), 1);
+        Due.is("pass(0, 1) over it", first.pass(0, 1), 0);
+        Due.is("pass(5, 0) over it", first.pass(5, 0), 0);
         LevelGone gentle = Towns.tops(0, 2, 4, 6, 8, 9);
         Due.is("no STEPS", gentle.lies(1), 0);
         Due.is("pass(0, 5)", gentle.pass(0, 5), 1);
@@ -150,6 +155,11 @@ public final class DoesTest {
         // off by 2, 2, 3: the third stands on what is off by 2
         ordered(x, 113, 4, 0, 0, 0);
         ordered(x, 131, 4, 0, 0, 0);
+        // off by 9: all fall but a SHED, and a BRICK on it
+        ordered(Towns.drifted(17), 1, 0, 0);
+        ordered(Towns.drifted(17), 1632, 0, 0, 0, 0, 0);
+        ordered(Towns.drifted(17), 1642, 2, 0, 0, 0, 0);
+        ordered(Towns.drifted(17), 1624, 1, 0, 0, 0, 0);
         LevelGone loving = Towns.of(3, 9, 9, 9, 9, 9, 9);
         // off by 0, 2, 4, 6: by churches one stands
         ordered(loving, 3333, 1, 0, 0, 0, 0);

@@ -29,6 +29,22 @@ public final class ThereIsTest {
         return x;
     }
 
+    /** All that an image keeps is other than in the full town. */
+    private static void otherTown(LevelGone x) {
+        x.town(5);
+        for (int i = 0; i < 6; i++) {
+            x.pull(i, 7);
+            x.member(i);
+            x.note(5, 5, 5, 5);
+            x.mark(5, 5, 5, 5, 0);
+        }
+        for (int i = 0; i < 4; i++) {
+            x.year(9);
+            x.build(i, 1, 1);
+            x.build(i, 3, 0);
+        }
+    }
+
     private static void images() {
         LevelGone x = fullTown();
         x.chance(1, 0, 0);
@@ -40,9 +56,8 @@ public final class ThereIsTest {
         x.undo();
         x.undo();
         Due.is("image(1)", x.image(1), 1);
-        x.town(5);
+        otherTown(x);
         x.type('z');
-        x.year(9);
         x.chance(9, 0, 0);
         Due.is("from(0)", x.from(0), 1);
         Due.is("THE TEXT stays", x.clear(), 1);

@@ -57,11 +57,11 @@ public final class TownTest {
         Due.is("kind", x.now(0), 5);
         Due.is("off", x.now(1), 0);
         Due.is("year", x.now(2), 0);
-        Due.is("pull of year 0", x.pull(0, 0), 0);
-        Due.is("pull of year 1", x.pull(1, 0), 0);
         for (int what = 0; what <= 5; what++) {
             Due.is("count(" + what + ") of a new town", x.count(what), 0);
         }
+        Due.is("pull of year 0", x.pull(0, 0), 0);
+        Due.is("pull of year 1", x.pull(1, 0), 0);
         Due.is("THE TEXT stays", x.count(6), 1);
         Due.is("THE FRACTION stays: above", x.part(0), 1);
         Due.is("THE FRACTION stays: below", x.part(1), 1);
@@ -150,6 +150,19 @@ public final class TownTest {
         }
     }
 
+    /** One ITEM is a TOWN, too; what a longer TEXT held ahead of it is gone. */
+    private static void readsAnew() {
+        LevelGone x = Towns.of(3, 7);
+        x.build(1, 0, 0);
+        Due.is("one ITEM", Towns.read(x, "town 05;"), 1);
+        Due.is("kind", x.now(0), 5);
+        Due.is("storeys", x.count(0), 0);
+        Due.is("what was behind is gone", Towns.read(x, "town 0"), -16);
+        Towns.typeIn(x, "town 3;years 10;");
+        Due.is("what was behind a word is gone", Towns.read(x, "town"), -14);
+        Due.is("kind still", x.now(0), 5);
+    }
+
     private static void readsWhatStands() {
         reads("town 0;", 1);
         reads("town0;", 1);
@@ -176,6 +189,11 @@ public final class TownTest {
         reads("5", -10);
         reads(" towns 0;", -11);
         reads("tow", -10);
+        reads("down 0;", -10);
+        reads("towm 0;", -10);
+        reads("town 0;guild 0 0;", -17);
+        reads("town 0;strings 0 0;", -17);
+        reads("town 0;year 1;", -17);
         reads("TOWN 0;", -10);
         reads("build 0 0;", -10);
         reads("years 1;town 0;", -10);
@@ -203,6 +221,8 @@ public final class TownTest {
         reads("town 0;pulls 0 1 2 3 4 5 ", -35);
         reads("town 0;pulls 0 pulls 1;", -25);
         reads("town 0;pulls 0 123;", -25);
+        reads("town 0;pulls 1,2;", -24);
+        reads("town 0;years 1.", -24);
         reads("town 0;years 0;", -23);
         reads("town 0;years 100;", -23);
         reads("town 0;years;", -22);
@@ -290,6 +310,7 @@ public final class TownTest {
         member();
         text();
         readsWhatStands();
+        readsAnew();
         readsFaults();
         readsFaultsOfItems();
         readsFullPlots();

@@ -167,6 +167,7 @@ public final class WasTest {
         Due.is("forget(0)", x.forget(0), 0);
         Due.is("forget(1)", x.forget(1), 6);
         Due.is("kinds(9) then", x.kinds(9), 63);
+        Due.is("forget(1) again", x.forget(1), 0);
     }
 
     private static void trying(int a, int u, int load, int kinds, int want) {
@@ -246,6 +247,15 @@ public final class WasTest {
         // from -3 to -2 either way
         chances(below, 2, 1, 3, 1, 1);
         chances(below, 3, 1, 3, 0, 1);
+        LevelGone most = Towns.drifted(17);
+        chances(most, 9, 0, 5, 1, 1);
+        chances(most, 9, 1, 5, 1, 1);
+        chances(most, 9, 8, 10, 1, 1);
+        LevelGone least = Towns.of(3);
+        Towns.turnTo(least, -9);
+        chances(least, 9, 0, 5, 1, 1);
+        chances(least, 9, 1, 5, 1, 2);
+        chances(least, 7, 1, 5, 1, 1);
         // TREMBLING: by 1 less in year 0 with no pull; by 8 less with
         LevelGone trembling = Towns.of(4, -9);
         chances(trembling, 3, 1, 4, 3, 5);

@@ -224,6 +224,15 @@ public final class YearsTest {
         Due.is("undo anew", x.undo(), 10);
     }
 
+    private static LevelGone besideFullPlot() {
+        LevelGone x = Towns.drifted(3);
+        for (int i = 1; i <= 5; i++) {
+            Due.is("PLAIN " + i, x.build(0, 0, 0), i);
+        }
+        Due.is("TOP of five", x.plot(0, 1), 2);
+        return x;
+    }
+
     private static void nowOfPlot() {
         LevelGone x = Towns.of(4, -5);
         Due.is("KIND", x.now(0), 4);
@@ -242,6 +251,7 @@ public final class YearsTest {
         }
         Due.is("plot: TOP", x.plot(2, 1), -3);
         Due.is("plot: TOP of none", x.plot(3, 1), 0);
+        Due.is("plot: TOP of none beside a full one", besideFullPlot().plot(1, 1), 0);
         Due.is("plot(-1, 0)", x.plot(-1, 0), -100);
         Due.is("plot(6, 0)", x.plot(6, 0), -100);
         Due.is("plot(0, -1)", x.plot(0, -1), -100);
