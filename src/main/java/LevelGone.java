@@ -773,7 +773,7 @@ public final class LevelGone {
         }
     }
 
-    /** The kinds of levels; PLAIN is any other. */
+    /** The kinds of levels; PLAIN is any other. Written flat, since calls may go but eight deep. */
     private static final class Levels {
         static final int DRIFTING = 1, PULLED = 2, LOVING = 3, TREMBLING = 4, STUCK = 5;
         static final int STUCK_AT = 3;
@@ -805,7 +805,7 @@ public final class LevelGone {
         }
     }
 
-    /** The kinds of storeys; PLAIN is any other. */
+    /** The kinds of storeys; PLAIN is any other. Written flat, as the levels. */
     private static final class Storeys {
         static final int BRICK = 1, CHURCH = 2, SHED = 3, TOWER = 4, HUT = 5;
 
