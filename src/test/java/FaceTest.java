@@ -27,6 +27,10 @@ public final class FaceTest {
             "\\b(throw|throws|try|catch|finally|synchronized|assert|import|package|protected|float|double|instanceof"
             + "|native|volatile|transient|strictfp|System\\.(?!arraycopy)\\w+|[a-z]+Exact|yield|record|enum)\\b|->|::";
 
+    /** What the program calls of the library; all of it is on the list of rule 4. */
+    private static final Set<String> LIBRARY = Set.of(
+            "Math.abs", "Math.max", "Math.min", "Integer.compare", "Integer.bitCount", "System.arraycopy");
+
     private static void constants() {
         Due.is("NONE", LevelGone.NONE, -1);
         Due.is("BAD", LevelGone.BAD, -2);
@@ -110,8 +114,27 @@ public final class FaceTest {
         while (forbidden.find()) {
             Due.that("'" + forbidden.group() + "' is not of the language", false);
         }
+        library(code);
         Due.is("classes that are public", code.split("public final class").length - 1, 1);
         shortMethods(code);
+    }
+
+    private static void library(String code) {
+        Matcher called = Pattern.compile("\\b(Math|Integer|Long|System|Arrays|String|List|Character)\\.\\w+").matcher(code);
+        while (called.find()) {
+            Due.that(called.group() + " is of the library that is told", LIBRARY.contains(called.group()));
+        }
+        Matcher made = Pattern.compile("\\bnew (\\w+)").matcher(code);
+        while (made.find()) {
+            boolean own = code.contains("class " + made.group(1) + " {") || made.group(1).equals("int");
+            Due.that(made.group() + " is of its own", own);
+        }
+    }
+
+    /** Rule 2: a class without a name would be one more, LevelGone$1. */
+    private static void noAnonymousClass() {
+        Due.that("no class without a name", LevelGone.class.getResource("LevelGone$1.class") == null);
+        Due.that("classes are found so", LevelGone.class.getResource("LevelGone$Town.class") != null);
     }
 
     private static void shortMethods(String code) {
@@ -129,6 +152,7 @@ public final class FaceTest {
         constants();
         face();
         classes();
+        noAnonymousClass();
         text();
         Due.end();
     }

@@ -9,8 +9,13 @@ import java.util.Random;
 
 /** Long runs of calls by a fixed seed, each answer compared with the model's. */
 public final class ModelTest {
-    private static final int RUNS = 1500;
-    private static final int CALLS = 300;
+    private static final int RUNS = 5000;
+
+    /** An object is used for so many calls at most; what later ones answer is free. */
+    private static final int CALLS = 512;
+
+    /** One call, the digest and STATUS. */
+    private static final int CALLS_COMPARED = 5;
     private static final int[] WRONG = {
         Integer.MIN_VALUE, Integer.MAX_VALUE, -101, -11, -10, -2, -1, 10, 11, 31, 60, 61, 99, 100, 127, 128, 150};
 
@@ -185,6 +190,9 @@ public final class ModelTest {
 
     private void readTown() throws ReflectiveOperationException {
         String text = townText();
+        if (calls.size() + 1 + text.length() + CALLS_COMPARED > CALLS) {
+            return;
+        }
         call("clear");
         for (int i = 0; i < text.length(); i++) {
             call("type", text.charAt(i));
@@ -193,8 +201,8 @@ public final class ModelTest {
         compareStatus();
     }
 
-    private void run(Method[] methods) throws ReflectiveOperationException {
-        for (int i = 0; i < CALLS; i++) {
+    private void run(Method[] methods, int most) throws ReflectiveOperationException {
+        while (calls.size() + CALLS_COMPARED <= most) {
             Method method = methods[random.nextInt(methods.length)];
             if (random.nextInt(3) == 0) {
                 String name = OFTEN.get(random.nextInt(OFTEN.size()));
@@ -217,11 +225,11 @@ public final class ModelTest {
             ModelTest run = new ModelTest(seed);
             if (seed % 3 == 0) {
                 run.readTown();
-            }
-            run.run(methods);
-            if (seed % 3 > 0) {
+                run.run(methods, CALLS);
+            } else {
+                run.run(methods, CALLS / 3);
                 run.readTown();
-                run.readTown();
+                run.run(methods, CALLS);
             }
         }
         Due.end();

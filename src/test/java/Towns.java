@@ -50,4 +50,60 @@ final class Towns {
         typeIn(x, text);
         return x.read();
     }
+
+    /** A town that holds some of all, full of nothing: three storeys on each plot, both images kept. */
+    static LevelGone rich() {
+        LevelGone x = of(3, 2, -9, 8, 1, 0, -1);
+        x.member(4);
+        x.build(2, 1, 0);
+        x.image(0);
+        x.town(4);
+        x.pull(1, -7);
+        x.year(1);
+        x.build(0, 2, 1);
+        for (int p = 0; p < 6; p++) {
+            for (int height = x.plot(p, 0); height < 3; height++) {
+                x.build(p, 5, p % 2);
+            }
+        }
+        for (int view = 1; view >= -1; view--) {
+            x.member(view);
+        }
+        x.note(1, 2, 3, 4);
+        x.note(-9, -8, 99, -7);
+        x.mark(9, -1, -2, 30, 1);
+        x.mark(0, 1, 2, 3, 0);
+        x.year(2);
+        x.image(1);
+        x.year(3);
+        x.year(1);
+        x.chance(1, 3, 5);
+        typeIn(x, "town 1;years 3;build 2 0;");
+        x.town(-1);
+        return x;
+    }
+
+    /** A town that is full of all: members, notes, marks, storeys, what may be undone, bytes; an image is kept. */
+    static LevelGone full() {
+        int[] kinds = {0, 2, 0, 1, 3};
+        LevelGone x = of(2, 3, -3, 9, -9, 0, 1);
+        for (int i = 0; i < 5; i++) {
+            x.member(i - 2);
+        }
+        for (int i = 0; i < 6; i++) {
+            x.note(i, i, i, i);
+            x.mark(i, 1, 0, 4, 1);
+        }
+        for (int i = 0; i < 30; i++) {
+            x.build(i % 6, kinds[i / 6], 1);
+        }
+        x.image(1);
+        x.year(99);
+        x.chance(1, 5, 5);
+        typeIn(x, "town 1;years 3;build 2 0;");
+        for (int i = 25; i < 150; i++) {
+            x.type(' ');
+        }
+        return x;
+    }
 }
