@@ -250,6 +250,9 @@ public final class DoesEdgesTest {
         for (int i = 0; i < 4; i++) {
             Due.is("on PLOT 0", x.order(3333, i), 0);
         }
+        // PULLS of the YEARS then: PLAIN, PLAIN, CHURCH by 0, 2, 4 or by 0, 2, 1
+        Due.is("up and up", Towns.of(3, 9, 9).order(113, -1), 2);
+        Due.is("up and down", Towns.of(3, 9, 1).order(113, -1), 3);
         // HUTS by 5, 6, 7, 8: two stand
         x.year(5);
         Due.is("by 5, 6", x.order(66, -1), 2);

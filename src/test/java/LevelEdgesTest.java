@@ -168,6 +168,11 @@ public final class LevelEdgesTest {
             Due.is("9999 still", x.now(2), 9999);
         }
         Seen.counted("years at 9999", x, before, Seen.NONE);
+        int undos = x.count(5);
+        Due.is("0 is BAD there, too", x.year(0), -100);
+        Due.is("100 is BAD there, too", x.year(100), -100);
+        Due.is("they count as BAD", x.status(0), before[0] + 2);
+        Due.is("and may not be undone", x.count(5), undos);
         Due.is("count(1)", x.count(1), 9999);
         LevelGone few = atYear(Towns.of(TREMBLING), 9901);
         Due.is("98 of 98", few.year(98), -1);

@@ -102,6 +102,7 @@ public final class TextEdgesTest {
             fault(ahead, word.substring(0, word.length() - 1) + " 1 1;");
             fault(ahead, word.substring(0, word.length() - 1));
             fault(ahead, word.substring(1) + " 1 1;");
+            fault(ahead, "z" + word.substring(1) + " 1 1;");
             fault(ahead, word + "s 1 1;");
             fault(ahead, "a" + word + " 1 1;");
             fault(ahead, word.substring(0, word.length() - 1) + "z 1 1;");

@@ -211,8 +211,8 @@ public final class UndoEdgesTest {
         }
     }
 
-    /** "keep all but them, THE TEXT, THE FRACTION and STATUS; what may be undone they keep". */
-    private static void whatImagesKeep() {
+    /** "what may be undone they keep": none to eight. */
+    private static void undosOfImages() {
         for (int n = 0; n <= 9; n++) {
             LevelGone x = built(n);
             x.image(1);
@@ -228,6 +228,10 @@ public final class UndoEdgesTest {
             Due.is("storeys then", x.count(0), n - Math.min(n, 8));
             Due.is("no more", x.undo(), -3);
         }
+    }
+
+    /** "keep all but them, THE TEXT, THE FRACTION and STATUS". */
+    private static void whatImagesKeep() {
         LevelGone rich = Towns.rich();
         rich.image(0);
         long kept = rich.digest();
@@ -240,14 +244,32 @@ public final class UndoEdgesTest {
         Due.is("STATUS is not kept", rich.status(0), 1);
         Due.that("the digest tells so", rich.digest() != kept);
         Towns.typeIn(rich, "town 1;years 3;build 2 0;");
+        rich.from(0);
         rich.image(1);
+        allOther(rich);
         rich.from(0);
         rich.chance(1, 3, 5);
         LevelGone twin = Towns.rich();
         // the fraction of rich was told by THE LEVEL as it still is
         Due.is("all else is", rich.digest(), twin.digest());
+        allOther(rich);
         Due.is("kept as it is", rich.from(1), 1);
         Due.is("both images are alike", rich.digest(), twin.digest());
+    }
+
+    /** All numbers that an image keeps are other then. */
+    private static void allOther(LevelGone x) {
+        x.town(1);
+        for (int i = 0; i < 6; i++) {
+            x.pull(i, 8);
+            x.member(-8);
+            x.note(8, 8, 8, 8);
+            x.mark(8, 8, 8, 8, 0);
+        }
+        for (int i = 0; i < 12; i++) {
+            x.year(1);
+            x.build(i % 6, 2, 1);
+        }
     }
 
     /** What is kept is not changed by going on from it, nor by the other. */
@@ -282,6 +304,7 @@ public final class UndoEdgesTest {
         behindPullAndMember();
         others();
         images();
+        undosOfImages();
         whatImagesKeep();
         imagesApart();
         Due.end();
