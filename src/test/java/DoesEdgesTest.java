@@ -44,25 +44,25 @@ public final class DoesEdgesTest {
         Seen.asked("when: none", Towns::full, t -> t.when(9), -1);
     }
 
-    /** WHEN "(0 .. 99)": a way that is long, two nearer in six years; the longest there is has 52. */
+    /** WHEN "(0 .. 99)": two farther in six years, the longest way there is (searched): 99 no town can show. */
     private static void whenLate() {
-        LevelGone x = Towns.of(2, 9, 9, -6, -9, -9, -9);
-        for (int y = 0; y < 6; y++) {
-            x.pull(y, 8);
-        }
-        x.year(10);
-        int[] pulls = {9, 9, -6, -9, -9, -9};
+        LevelGone x = Towns.of(2, -8, -8, -8, -8, -8, -8);
+        x.year(12);
+        int[] pulls = {8, -9, 8, -9, 8, 9};
         for (int y = 0; y < 6; y++) {
             x.pull(y, pulls[y]);
         }
-        Due.is("off", x.now(1), 8);
-        Due.is("year 10: as 4", x.now(2) % 6, 4);
-        int late = x.when(9);
-        Due.is("when(9)", late, 50);
-        Due.is("then it is", x.then(late), -9);
-        for (int m = 0; m < late; m++) {
+        Due.is("off", x.now(1), -8);
+        Due.is("year 12: as 0", x.now(3), 8);
+        Due.is("when(9)", x.when(9), 54);
+        Due.is("then it is", x.then(54), 9);
+        for (int m = 0; m < 54; m++) {
             Due.that("not yet behind " + m, Math.abs(x.then(m)) < 9);
         }
+        x.year(1);
+        Due.is("when(9) behind one more", x.when(9), 53);
+        x.pull(5, 8);
+        Due.is("never", x.when(9), -1);
     }
 
     private static void rolling(int[] tops, int... where) {
