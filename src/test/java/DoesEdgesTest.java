@@ -282,6 +282,60 @@ public final class DoesEdgesTest {
         Due.is("SHED on TOWER", x.order(54, 1), 0);
     }
 
+    /** "on a PLOT of one's choice: so that there are most STOREYS in all then": not most at each turn. */
+    private static void orderMost() {
+        LevelGone place = Towns.of(2, 9, 9);
+        place.year(1);
+        place.build(0, 0, 0);
+        // SHED by 1, TOWER by 2: the TOWER stands on PLOT 0 alone, and not on the SHED
+        Due.is("the place is kept for the TOWER", place.order(45, -1), 3);
+        Due.is("SHED", place.order(45, 0), 1);
+        Due.is("TOWER", place.order(45, 1), 0);
+        LevelGone fall = Towns.of(2, 9, 9, 2, 2, 2, 2);
+        fall.year(2);
+        fall.build(0, 0, 0);
+        // all by 2, and stand on PLOT 0 alone: the TOWER, then one CHURCH, or three CHURCHES
+        Due.is("TOWER and CHURCH", fall.order(53, -1), 3);
+        Due.is("TOWER and one of two", fall.order(533, -1), 3);
+        Due.is("it stands", fall.order(533, 0), 0);
+        Due.is("the TOWER falls, three CHURCHES stand", fall.order(5333, -1), 4);
+        int[] plots = {1, 0, 0, 0};
+        for (int i = 0; i < 4; i++) {
+            Due.is("TOWER, CHURCHES: " + i, fall.order(5333, i), plots[i]);
+        }
+        orderMostLater();
+    }
+
+    /** The same where the choice is the second's or the third's: PLAIN ones and SHED by 1, the TOWER by 2. */
+    private static void orderMostLater() {
+        LevelGone second = Towns.of(2, 9, 1, 9);
+        second.year(1);
+        int[] plots = {0, 1, 0};
+        for (int i = 0; i < 3; i++) {
+            Due.is("PLAIN, SHED, TOWER: " + i, second.order(145, i), plots[i]);
+        }
+        Due.is("all three stand", second.order(145, -1), 3);
+        LevelGone third = Towns.of(2, 9, 1, 1, 9);
+        third.year(1);
+        int[] plotsOfFour = {0, 0, 1, 0};
+        for (int i = 0; i < 4; i++) {
+            Due.is("PLAIN, PLAIN, SHED, TOWER: " + i, third.order(1145, i), plotsOfFour[i]);
+        }
+        Due.is("all four stand", third.order(1145, -1), 4);
+    }
+
+    /** "each on a PLOT of one's choice": each of 0 to 5, where a CHURCH by 2 stands on it alone. */
+    private static void orderOnEachPlot() {
+        for (int p = 0; p <= 5; p++) {
+            LevelGone x = Towns.of(2, 9, 9, 2);
+            x.year(2);
+            x.build(p, 0, 0);
+            Due.is("on PLOT " + p, x.order(3, 0), p);
+            Due.is("the second on PLOT " + p, x.order(33, 1), p);
+            Due.is("three", x.order(33, -1), 3);
+        }
+    }
+
     private static LevelGone council(int off, int... views) {
         LevelGone x = offBy(off);
         for (int view : views) {
@@ -359,6 +413,8 @@ public final class DoesEdgesTest {
         orderWhereItFalls();
         orderYears();
         orderFirstWay();
+        orderMost();
+        orderOnEachPlot();
         votes();
         carried();
         power();

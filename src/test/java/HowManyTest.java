@@ -172,6 +172,16 @@ public final class HowManyTest {
             y.year(100);
         }
         Due.is("BAD, call 512", y.status(0), 511);
+        LevelGone z = new LevelGone();
+        for (int i = 1; i <= 511; i++) {
+            z.undo();
+        }
+        Due.is("NO, call 512", z.status(1), 511);
+        LevelGone full = new LevelGone();
+        for (int i = 1; i <= 511; i++) {
+            full.member(0);
+        }
+        Due.is("FULL, call 512", full.status(2), 506);
     }
 
     public static void main(String[] args) {

@@ -144,7 +144,7 @@ public final class LevelEdgesTest {
     }
 
     private static LevelGone atYear(LevelGone x, int year) {
-        while (x.now(2) + 99 <= year) {
+        for (int at = x.now(2); at + 99 <= year; at += 99) {
             x.year(99);
         }
         if (x.now(2) < year) {

@@ -146,6 +146,20 @@ public final class StoreyEdgesTest {
         }
     }
 
+    /** The most there may be: four CHURCHES bear all, the heaviest above them is a TOWER. */
+    private static void mostLoad() {
+        LevelGone x = new LevelGone();
+        int[] kinds = {CHURCH, CHURCH, CHURCH, CHURCH, TOWER};
+        int[] loads = {17, 13, 9, 5, 0};
+        for (int kind : kinds) {
+            x.build(5, kind, 0);
+        }
+        for (int i = 0; i < 5; i++) {
+            Due.is("LOAD on " + i + " of the heaviest", x.of(5, i, 2), loads[i]);
+        }
+        Due.is("all of the heaviest", x.plot(5, 2), 21);
+    }
+
     /** "the lowest of the PLOT that does not STAND falls, with all above it, again and again". */
     private static void falls() {
         // PLAIN, SHED, CHURCH: the SHED falls, with the CHURCH
@@ -265,6 +279,7 @@ public final class StoreyEdgesTest {
         loadsBuilt();
         heavy();
         loadOf();
+        mostLoad();
         falls();
         onTheGround();
         onOneAnother();
